@@ -57,6 +57,23 @@ public final class BestTest {
     chosenIs(x, 1, 0, 0, 1);
   }
 
+  /** Only the very last row of all does each house in time. */
+  static void sixHouses() {
+    FirstSill x = Check.street("house a 0 1 by 11;house b 0 2 by 9;house c 0 4 by 7;house d 0 8 by 5;"
+        + "house e 0 16 by 3;house f 0 32 by 1;dark j 99 0;dark k 99 0;dark l 0 6;");
+    Check.due("best(2)", x.best(2), 0);
+    Check.due("best(3)", x.best(3), 63);
+    chosenIs(x, 3, 1);
+    chosenIs(x, 3, 2, 5, 4, 3, 2, 1, 0);
+    Check.due("many()", x.many(), 3);
+    Check.due("all(63)", x.all(63), 1);
+    Check.due("price of a", x.price(0), 0);
+    Check.due("tales of six", x.tales(2), 1957);
+    for (int i = 0; i < 6; i++) Check.due("the last tale", x.tale(2, 1956, i), 5 - i);
+    Check.due("no more", x.tale(2, 1956, 6), -2);
+    Check.due("no tale behind it", x.tale(2, 1957, 0), -3);
+  }
+
   static void many() {
     FirstSill x = Check.street("house a 0 9 own;house b 0 7;dark k 0 1;dark l 0 1;");
     Check.due("both", x.many(), 2);
@@ -277,6 +294,7 @@ public final class BestTest {
   public static void main(String[] args) {
     best();
     firstOfSeveral();
+    sixHouses();
     many();
     price();
     all();

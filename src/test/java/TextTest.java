@@ -71,6 +71,32 @@ public final class TextTest {
     Check.due("without houses", x.count(0), 0);
   }
 
+  /** What stands behind the first n bytes is no part of any token of theirs. */
+  static void cutText() {
+    String[] texts = {"law walk 1<=2;", "law walk 1<>2;", "law walk 1>=2;"};
+    for (String text : texts) {
+      FirstSill x = new FirstSill();
+      Check.feed(x, text);
+      Check.due("cut " + text, x.text(11), -1);
+      Check.due("more must come", x.fault(0), 1);
+      Check.due("at the length", x.fault(1), 11);
+    }
+    FirstSill x = new FirstSill();
+    Check.feed(x, "seed 1234567;seed 1;");
+    Check.due("cut number", x.text(9), -1);
+    Check.due("at the length", x.fault(1), 9);
+    Check.feed(x, "lawwalk;");
+    Check.due("cut word", x.text(4), -1);
+    Check.due("law, then w", x.fault(1), 0);
+    Check.feed(x, "seed 12345;        <");
+    Check.due("a sign is the last of all", x.text(20), -1);
+    Check.due("it can't stand there", x.fault(1), 19);
+    for (int i = 0; i < 29; i++) x.feed(0x20202020, 0x20202020, 0x20202020, 0x20202020, 0x20202020);
+    Check.feed(x, "         law walk 1<");
+    Check.due("at the very end of the tape", x.text(600), -1);
+    Check.due("more must come", x.fault(1), 600);
+  }
+
   static void lines() {
     Check.right("", 0);
     Check.right("  \n\n ", 0);
@@ -296,6 +322,7 @@ public final class TextTest {
     newObject();
     feed();
     text();
+    cutText();
     lines();
     joinedTokens();
     faultsOfTokens();
