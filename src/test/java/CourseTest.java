@@ -326,6 +326,26 @@ public final class CourseTest {
     Check.due("out without dark ones", x.gain(), 9);
   }
 
+  /** home is 1 when it is asked who may go OUT, and 0 for all else, behind that too. */
+  static void home() {
+    FirstSill x = Check.street("house a 0 9 own;house b 5 4;dark k 0 3;law may home=1 or worth=4;law walk far+home*50;"
+        + "law stay 3+home;law cat home*1000;");
+    x.out(0, true);
+    Check.send(x, 0, 0, 1);
+    Check.due("a by itself", x.done(0, 0), -2);
+    Check.due("b on 6", x.done(1, 1), 6);
+    Check.due("leaves on 9", x.after(0, 0), 9);
+    Check.due("no cat comes", x.night(), 13);
+    Check.due("b on 6 in the night", x.was(1, 1), 6);
+    Check.due("no cat", x.cat(1, 1), 0);
+    Check.due("best", x.best(1), 13);
+    Check.due("a may not be done by k", x.stays(0, 0, 1, 0, 1), 0);
+    x = Check.street("house a 0 9 own;house b 50 4;law may home=1;law cat home*1000;");
+    x.out(0, true);
+    x.night();
+    Check.due("b has no cat", x.was(1, 0), -1);
+  }
+
   static void night() {
     // numbers of seed 7: 564, 806, 868, 674, 531, 365, 34, 790, 985, 913, 213, 363
     FirstSill x = Check.street("house a 0 9;house b 50 6;dark d 4 1;law cat 365*(minute>1);seed 7;");
@@ -425,6 +445,7 @@ public final class CourseTest {
     rowEnds();
     coalAndStay();
     out();
+    home();
     night();
     cats();
     chance();
