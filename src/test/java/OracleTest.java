@@ -2,18 +2,22 @@ import java.util.NoSuchElementException;
 
 /** Runs of drawn calls, each answered by FirstSill and by the plain model, which must say the same. */
 public final class OracleTest {
+  /** An object is used for at most 512 calls; a TEXT takes some 60 of them. */
+  private static final int MOST_CALLS = 450;
   private static int wrong = 0;
 
   private final Lot lot;
   private final FirstSill x = new FirstSill();
   private final Plain p = new Plain();
   private final StringBuilder told = new StringBuilder();
+  private int calls = 0;
   private int houses;
   private int darks;
 
   private OracleTest(long seed) { lot = new Lot(seed); }
 
   private void same(String call, long got, long due) {
+    calls++;
     told.append(call).append(" -> ").append(got).append('\n');
     if (got != due && wrong++ < 5) System.out.println(told + "  due is " + due + "\n");
   }
@@ -32,11 +36,15 @@ public final class OracleTest {
     darks = p.darks();
   }
 
-  private int house() { return lot.oneIn(12) ? lot.from(-2, 7) : lot.below(Math.max(1, houses)); }
+  private int far() { return lot.oneIn(2) ? Integer.MIN_VALUE : Integer.MAX_VALUE; }
 
-  private int dark() { return lot.oneIn(12) ? lot.from(-2, 4) : lot.below(Math.max(1, darks)); }
+  private int house() { return lot.oneIn(60) ? far() : lot.oneIn(12) ? lot.from(-2, 7) : lot.below(Math.max(1, houses)); }
 
-  private int minute() { return lot.oneIn(8) ? lot.from(-1, 242) : lot.oneIn(2) ? lot.from(1, 240) : lot.from(1, 25); }
+  private int dark() { return lot.oneIn(60) ? far() : lot.oneIn(12) ? lot.from(-2, 4) : lot.below(Math.max(1, darks)); }
+
+  private int minute() {
+    return lot.oneIn(60) ? far() : lot.oneIn(8) ? lot.from(-1, 242) : lot.oneIn(2) ? lot.from(1, 240) : lot.from(1, 25);
+  }
 
   private void change() {
     int d = dark();
@@ -185,7 +193,7 @@ public final class OracleTest {
     OracleTest t = new OracleTest(seed);
     Texts texts = new Texts(t.lot);
     t.tell(texts.right(t.lot.from(mostHouses / 2, mostHouses), t.lot.from(1, 3)));
-    for (int i = 0; i < steps; i++) {
+    for (int i = 0; i < steps && t.calls < MOST_CALLS; i++) {
       int kind = t.lot.below(40);
       if (kind < 16) t.change();
       else if (kind < 31) t.ask();
@@ -198,7 +206,7 @@ public final class OracleTest {
   private static void readWrongs(long seed) {
     OracleTest t = new OracleTest(seed);
     Texts texts = new Texts(t.lot);
-    for (int i = 0; i < 40; i++) {
+    for (int i = 0; i < 40 && t.calls < MOST_CALLS; i++) {
       t.told.setLength(0);
       t.tell(t.lot.oneIn(3) ? texts.words() : texts.wrong());
       for (int what = 0; what < 3; what++) t.same("count(" + what + ")", t.x.count(what), t.p.count(what));
@@ -208,7 +216,7 @@ public final class OracleTest {
 
   public static void main(String[] args) {
     int times = args.length > 0 ? Integer.parseInt(args[0]) : 1;
-    for (int seed = 0; seed < 400 * times; seed++) readWrongs(seed);
+    for (int seed = 0; seed < 1600 * times; seed++) readWrongs(seed);
     for (int seed = 0; seed < 400 * times; seed++) run(seed, 4, 300);
     for (int seed = 0; seed < 6 * times; seed++) run(1000000 + seed, 6, 60);
     System.out.println(wrong == 0 ? "all answers are as the plain model's" : wrong + " answers are not as the plain model's");

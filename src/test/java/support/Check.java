@@ -1,3 +1,5 @@
+import java.util.NoSuchElementException;
+
 /** Counts what is not as is due, and tells a TEXT to an object. */
 final class Check {
   private static int wrong = 0;
@@ -52,6 +54,45 @@ final class Check {
   /** Sends a DARK one to HOUSES, one behind another. */
   static void send(FirstSill x, int dark, int... houses) {
     for (int house : houses) x.send(dark, house);
+  }
+
+  /** What two objects show, which has to be the same. */
+  static void same(String told, String got, String want) {
+    asked++;
+    if (got.equals(want)) return;
+    wrong++;
+    String[] gots = got.split("\n");
+    String[] wants = want.split("\n");
+    int i = 0;
+    while (i < gots.length && i < wants.length && gots[i].equals(wants[i])) i++;
+    System.out.println(told + ": " + (i < gots.length ? gots[i] : "no more") + ", due is " + (i < wants.length ? wants[i] : "no more"));
+  }
+
+  /** A name as named() takes it. */
+  static int letters(String name) {
+    int letters = 0;
+    for (int i = 0; i < 6; i++) letters = letters * 32 + (i < name.length() ? name.charAt(i) - 'a' + 1 : 0);
+    return letters;
+  }
+
+  static final int NO_HOUSE = -1000001;
+  static final int NO_WHAT = -1000002;
+
+  /** look(), with numbers of its exceptions. */
+  static int look(FirstSill x, int house, int what) {
+    try {
+      return x.look(house, what);
+    } catch (IndexOutOfBoundsException e) {
+      return NO_HOUSE;
+    } catch (NoSuchElementException e) {
+      return NO_WHAT;
+    }
+  }
+
+  static String repeated(String part, int times) {
+    StringBuilder all = new StringBuilder();
+    for (int i = 0; i < times; i++) all.append(part);
+    return all.toString();
   }
 
   static void end() {
