@@ -104,6 +104,64 @@ public final class BestEdgesTest {
     chosenIs(x, 1, 0, 1);
   }
 
+  // ---- "not at all (the row ends), if that is above 240", in BEST, in ALL, in TALES
+
+  static void theRowEnds() {
+    // a is too far; b behind it in a row is not come to
+    FirstSill x = Check.street("house a 99 9;house b 0 5;dark k 0 9;law walk far*3;");
+    Check.due("b alone", x.best(1), 5);
+    chosenIs(x, 1, 0, 1);
+    Check.due("b", x.all(2), 1);
+    Check.due("a", x.all(1), 0);
+    Check.due("not both", x.many(), -2);
+    x.track(0, 1, 1);
+    Check.due("b; b and a", x.tales(0), 2);
+    Check.due("b", x.tale(0, 0, 0) * 10 + x.tale(0, 0, 1), 8);
+    Check.due("b and a", x.tale(0, 1, 0) * 10 + x.tale(0, 1, 1), 10);
+    // a on 201, b on 461: that is 205 in a byte
+    x = Check.street("house a 0 5;house b 0 7;dark k 0 9;law walk 200;law stay 60;");
+    Check.due("one of them", x.best(1), 7);
+    chosenIs(x, 1, 0, 1);
+    Check.due("not both", x.all(3), 0);
+    x.track(0, 1, 205);
+    Check.due("not on 205", x.tales(0), 0);
+    x.strike(0);
+    x.track(0, 1, 201);
+    Check.due("on 201: b; b and a", x.tales(0), 2);
+    // a on 100, leaving on 160; b on 300, that is 44 in a byte
+    x = Check.street("house a 0 5;house b 0 7;dark k 0 9;law walk 99+(minute>1)*41;law stay 60;");
+    Check.due("one of them", x.best(1), 7);
+    chosenIs(x, 1, 0, 1);
+    Check.due("not both", x.all(3), 0);
+    x.track(0, 1, 44);
+    Check.due("not on 44", x.tales(0), 0);
+    // a on 1, leaving on 61; b on 240 or on 241
+    for (int walk : new int[] {179, 180}) {
+      x = Check.street("house a 0 5;house b 0 7;dark k 0 9;law walk (minute>1)*" + walk + ";law stay 60;");
+      Check.due("best, b on " + (61 + walk), x.best(1), walk == 179 ? 12 : 7);
+      Check.due("all, b on " + (61 + walk), x.all(3), walk == 179 ? 1 : 0);
+      Check.due("many, b on " + (61 + walk), x.many(), walk == 179 ? 1 : -2);
+      x.track(0, 1, 240);
+      Check.due("tales, b on " + (61 + walk), x.tales(0), walk == 179 ? 1 : 0);
+    }
+  }
+
+  /** Laws by glasses and COAL, each row from its begin on. */
+  static void lawsOfRows() {
+    for (String law : new String[] {"glass*100+1", "(9-left)*100+1"}) {
+      FirstSill x = Check.street("house a 0 1;house b 0 2 by 105;house c 0 4 by 2;dark k 0 9;dark l 0 9;law walk " + law + ";");
+      Check.due("c on 2, b on 105", x.best(1), 6);
+      chosenIs(x, 1, 0, 2, 1);
+      Check.due("and a by l", x.best(2), 7);
+      chosenIs(x, 2, 0, 0);
+      chosenIs(x, 2, 1, 2, 1);
+      x.track(0, 0, 105);
+      Check.due("b a, b a c, c a, c a b", x.tales(0), 4);
+      x.track(0, 2, 2);
+      Check.due("c a, c a b", x.tales(0), 2);
+    }
+  }
+
   // ---- Promise 22: "The k-th HOUSE ..; -2: there are no so many; NONE: no such ones."
 
   static void chosen() {
@@ -249,6 +307,23 @@ public final class BestEdgesTest {
     exchangeIs("like HOUSES", x);
     x.send(0, 1);
     exchangeIs("one more", x, 6, 0, 0, 0, 2);
+    // what is behind the end of a row is no PLACE, whatever was there
+    x = Check.street("house a 0 9;house b 0 5;house c 0 7;dark k 0 1;dark l 0 1;");
+    x.send(0, 1);
+    exchangeIs("one PLACE, of the one that is less", x);
+    x.send(0, 2);
+    exchangeIs("two PLACES", x, 7, 0, 0, 0, 1);
+    x.drop(0);
+    exchangeIs("one was dropped", x);
+    Check.send(x, 1, 0);
+    x.drop(1);
+    exchangeIs("one of another was dropped", x);
+    x.send(0, 0);
+    x.undo();
+    exchangeIs("a send was undone", x);
+    Check.tell(x, "house a 0 9;house b 0 5;house c 0 7;dark k 0 1;dark l 0 1;");
+    x.send(0, 1);
+    exchangeIs("a TEXT was told", x);
     x = Check.street("house a 0 5;house b 0 5;dark k 0 1;dark l 0 0;");
     Check.send(x, 0, 0, 1);
     exchangeIs("as much as now", x);
@@ -416,6 +491,51 @@ public final class BestEdgesTest {
     for (int what : new int[] {0, 1, 2, 5}) Check.due("none: tried(" + what + ", 0)", new FirstSill().tried(what, 0), 0);
   }
 
+  /** Rows of nine: the last of them counts in all that is tried, exchanged and undone. */
+  static void rowsOfNine() {
+    // only the ninth that he comes to may be DONE
+    String street = "house a 0 0;house b 0 5;house c 0 8;dark k 0 1;dark l 0 1;dark m 0 1;law walk 1;law stay 0;law may minute=10;";
+    for (int d = 0; d < 3; d++) {
+      FirstSill x = Check.street(street);
+      Check.send(x, d, 0, 0, 0, 0, 0, 0, 0, 2, 1);
+      Check.due("now", x.gain(), 5);
+      for (int what : new int[] {0, 1}) Check.due("tried(" + what + ")", x.tried(what, 0), 5);
+      Check.due("all MAY: the first takes his coal", x.tried(5, 0), 0);
+      Check.due("c isn't there: b is the eighth", x.tried(3, 2), 0);
+      Check.due("he isn't there", x.tried(4, d), 0);
+      Check.due("others aren't there", x.tried(4, (d + 1) % 3), 5);
+      Check.due("refusal", x.refusal(0), 5);
+      exchangeIs("the eighth and the ninth", x, 8, d, 7, d, 8);
+      x.keep();
+      Check.due("climb", x.climb(), 1);
+      Check.due("gain of the climb", x.gain(), 8);
+      Check.due("undo", x.undo(), 9);
+      Check.due("as it was", x.gain(), 5);
+      x.climb();
+      for (int i = 0; i < 9; i++) x.drop(d);
+      Check.send(x, d, 1, 1, 1, 1, 1, 1, 2, 0, 0);
+      Check.due("another row", x.gain(), 0);
+      Check.due("back", x.back(), 5);
+      for (int i = 0; i < 9; i++) Check.due("the " + i + "th", x.dark(d, 3 + i), i < 7 ? 0 : 9 - i);
+      for (int i = 0; i < 9; i++) x.drop(d);
+      Check.send(x, d, 1, 1, 1, 1, 1, 1, 2, 0, 0);
+      for (int i = 0; i < 18; i++) x.undo();
+      for (int i = 0; i < 9; i++) Check.due("undone, the " + i + "th", x.dark(d, 3 + i), i < 7 ? 0 : 9 - i);
+    }
+  }
+
+  /** All six GLASSES, all six COALS. */
+  static void triedWithSix() {
+    FirstSill x = Check.street("house a 0 1 by 1;house b 0 2 by 1;house c 0 4 by 1;house d 0 8 by 1;house e 0 16 by 1;house f 0 32 by 1;dark k 0 6;");
+    Check.send(x, 0, 5, 4, 3, 2, 1, 0);
+    Check.due("now", x.gain(), 32);
+    Check.due("all six REFUSED", x.tried(0, 0), 63);
+    x = Check.street("house a 0 1;house b 0 2;house c 0 4;house d 0 8;house e 0 16;house f 0 32;dark k 0 1;law may glass<6 and left=1;");
+    Check.send(x, 0, 5, 4, 3, 2, 1, 0);
+    Check.due("now", x.gain(), 32);
+    Check.due("COAL is never less", x.tried(1, 0), 63);
+  }
+
   /** "0 all GLASSES are REFUSED (WORTH whole), 1 COAL is never less (who has none has none still)". */
   static void triedGlassesAndCoal() {
     FirstSill x = Check.street("house a 0 9 by 1;house b 0 7 by 1;house c 0 5 by 1;dark k 0 3;dark l 0 0;");
@@ -461,6 +581,10 @@ public final class BestEdgesTest {
     Check.send(x, 0, 0, 1);
     Check.due("one OUT that isn't there", x.tried(3, 0), 8);
     Check.due("still OUT", Check.look(x, 0, 5), 1);
+    x = Check.street("house a 0 1 own;house b 0 2 own;house c 0 4 own;house d 0 8 own;house e 0 16 own;house f 0 32 own;");
+    for (int h = 0; h < 6; h++) x.out(h, true);
+    for (int h = 0; h < 6; h++) Check.due("all OUT, without " + h, x.tried(3, h), 63 - (1 << h));
+    Check.due("all OUT still", x.gain(), 63);
     // who isn't there leaves it to another one
     x = Check.street("house a 9 9;dark k 9 3;dark l 0 3;");
     x.send(0, 0);
@@ -487,6 +611,8 @@ public final class BestEdgesTest {
     best();
     bestOfNone();
     theFirstOfSeveral();
+    theRowEnds();
+    lawsOfRows();
     chosen();
     many();
     price();
@@ -496,6 +622,8 @@ public final class BestEdgesTest {
     climb();
     refusal();
     triedWhatAndI();
+    rowsOfNine();
+    triedWithSix();
     triedGlassesAndCoal();
     triedOthers();
     Check.end();

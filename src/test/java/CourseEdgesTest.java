@@ -108,18 +108,25 @@ public final class CourseEdgesTest {
 
   static void namesOfStayAndMay() {
     String[] names = {"far", "glass", "minute", "up", "left", "worth", "home"};
-    int[] most = {0, 9, 240, 0, 9, 99, 0};
-    int[] least = {0, 0, 1, 0, 0, 0, 0};
+    // k in b on 40 with 6 glasses, l in a on 1 with none, k in a on 240 with 9
+    int[][] due = {{0, 6, 40, 0, 8, 99, 0}, {0, 0, 1, 0, 0, 0, 0}, {0, 9, 240, 0, 8, 0, 0}};
+    int[][] calls = {{0, 1, 40, 6}, {1, 0, 1, 0}, {0, 0, 240, 9}};
     for (int i = 0; i < names.length; i++) {
-      FirstSill x = Check.street("house a 0 0;house b 99 99;dark k 0 9;dark l 99 0;law stay " + names[i] + "/4;law may " + names[i] + ";");
-      // with what walk is asked ahead it has nothing to do
-      x.walk(0, -1, 1, 240, 9);
+      for (int c = 0; c < 3; c++) {
+        int[] call = calls[c];
+        String street = "house a 0 0;house b 99 99;dark k 0 8;dark l 99 0;";
+        FirstSill x = Check.street(street + "law stay 7+(" + names[i] + "=" + due[c][i] + ");law may " + names[i] + "=" + due[c][i] + ";");
+        FirstSill y = Check.street(street + "law may " + names[i] + "<>" + due[c][i] + ";");
+        // with what walk is asked ahead it has nothing to do
+        x.walk(0, -1, 1, 200, 3);
+        Check.due("STAY by " + names[i] + ", call " + c, x.stays(call[0], call[1], call[2], call[3], 0), 8);
+        x.walk(0, -1, 1, 200, 3);
+        Check.due("MAY by " + names[i] + ", call " + c, x.stays(call[0], call[1], call[2], call[3], 1), 1);
+        Check.due("not MAY by " + names[i] + ", call " + c, y.stays(call[0], call[1], call[2], call[3], 1), 0);
+      }
+      FirstSill x = Check.street("house a 0 0;house b 99 99;dark k 0 9;dark l 99 0;law stay " + names[i] + "/4;");
+      int[] most = {0, 9, 240, 0, 9, 99, 0};
       Check.due("STAY, most: " + names[i], x.stays(0, 1, 240, 9, 0), most[i] / 4);
-      Check.due("MAY, most: " + names[i], x.stays(0, 1, 240, 9, 1), most[i] > 0 ? 1 : 0);
-      x.walk(0, -1, 1, 240, 9);
-      Check.due("MAY, least: " + names[i], x.stays(1, 0, 1, 0, 1), least[i] > 0 ? 1 : 0);
-      x.walk(0, -1, 1, 240, 9);
-      Check.due("STAY, least: " + names[i], x.stays(1, 0, 1, 0, 0), 0);
     }
   }
 
@@ -197,16 +204,84 @@ public final class CourseEdgesTest {
       least + "*1", least + "*(0-1)", MOST + "/1", MOST + "/(0-1)", least + "/(0-1)", "1/(" + MOST + ")", MOST + "-(" + MOST + ")",
       least + "+(" + MOST + ")", MOST + "+0", least + "-0", "0/1", "0/(0-1)", "not (" + MOST + ")", "(" + MOST + ")<" + least,
       "(500*1000*1000*1000)+(500*1000*1000*1000)", "(500*1000*1000*1000)*2", "2*(500*1000*1000*1000)", "8192*8192*8192"};
-    for (String e : right) Check.due(e, walkBy("(" + e + ")*0+77"), 77);
+    // and what is made of it: each sign may be the one that asks
+    String[] around = {"(%)*0+77", "77+0*(%)", "77*((%)<>5)", "77*(5<>(%))", "76+(not (% ) or 1)", "77*(1 and (1 or (%)))"};
+    for (String e : right) {
+      for (String with : around) Check.due(with.replace("%", e), walkBy(with.replace("%", e)), 77);
+    }
     String[] wrong = {MOST + "+1", "1+" + MOST, least + "-1", "0-1-" + MOST, "1000*1000*1000*1001", "(0-1000)*1000*1000*1001",
       "(1000*1000+1)*(1000*1000)", "(1000*1000)*(1000*1000+1)", "(0-1000*1000)*(1000*1000+1)", "(0-1000*1000-1)*(0-1000*1000)",
       MOST + "+(" + MOST + ")", least + "-(" + MOST + ")", least + "+" + least, MOST + "-" + least, MOST + "*2", MOST + "*(0-2)", "2*(" + MOST + ")",
       "(" + MOST + ")*(" + MOST + ")", least + "*" + least, "(500*1000*1000*1000+1)*2", "(500*1000*1000*1000)*2+1",
       // 2 to the 78, 2 to the 64: 0 in a long
-      "(8192*8192*8192)*(8192*8192*8192)", "(" + WRAP + ")*(" + WRAP + ")",
+      "(8192*8192*8192)*(8192*8192*8192)", "(" + WRAP + ")*(" + WRAP + ")", "(0-8192*8192*8192)*(8192*8192*8192)",
+      "(8192*8192*8192)*(0-8192*8192*8192)", "(0-8192*8192*8192)*(0-8192*8192*8192)", "(0-" + WRAP + ")*(" + WRAP + ")",
       "1/0", "0/0", "1/(1-1)", "1/home", "(0-1)/0", "(" + MOST + ")/0", "0*(1/0)", "(1/0)*0", "1 or 1/0", "1/0 or 1", "0 and 1/0", "1/0 and 0",
       "1<1/0", "1/0=1/0", "not (1/0)", "1+1/0", "1-1/0", "0/(1/0)", "1 or (" + MOST + "+1)"};
-    for (String e : wrong) Check.due(e, walkBy("(" + e + ")*0+77"), 10);
+    for (String e : wrong) {
+      for (String with : around) Check.due(with.replace("%", e), walkBy(with.replace("%", e)), 10);
+    }
+  }
+
+  /** As deep as eight '(' and 64 KNOTS let it be: what stands ahead of each sign waits for what is behind it. */
+  static void deep() {
+    StringBuilder e = new StringBuilder();
+    for (int i = 0; i < 6; i++) e.append("0 or 1 and 3<2+1*(");
+    e.append("far))))))");
+    for (int far = 0; far <= 3; far++) {
+      FirstSill x = Check.street("house a " + far + " 1;dark k 0 1;law walk " + e + ";");
+      boolean due = far > 1;
+      for (int i = 1; i < 6; i++) due = 3 < 2 + (due ? 1 : 0);
+      Check.due("61 KNOTS", x.count(2), 61);
+      Check.due("deep, far " + far, x.walk(0, -1, 0, 1, 0), due ? 1 : 0);
+    }
+    FirstSill x = Check.street("house a 9 1;dark k 0 1;law walk 1+(2+(3+(4+(5+(6+(7+(8+(9*far))))))));");
+    Check.due("eight open", x.walk(0, -1, 0, 1, 0), 36 + 81);
+    x = Check.street("house a 9 1;dark k 0 1;law walk 200-(100-(50-(25-(12-(6-(3-(2-far)))))));");
+    Check.due("what is behind is taken from what is ahead", x.walk(0, -1, 0, 1, 0), 200 - (100 - (50 - (25 - (12 - (6 - (3 - (2 - 9))))))));
+  }
+
+  // ---- the NAMES once more, as a DARK one goes
+
+  static final String[] NAMES = {"far", "glass", "minute", "up", "left", "worth", "home"};
+
+  /** k goes up to a on 4, leaves it on 6, goes down to b on 19 and leaves it on 21, if no law says otherwise. */
+  static FirstSill onTheWay(String law, boolean so, String name, int value) {
+    String e = law.replace("%", name + (so ? "=" : "<>") + value);
+    FirstSill x = Check.street("house a 53 5;house b 40 11;dark k 50 9;law " + e + ";");
+    Check.send(x, 0, 0, 1);
+    return x;
+  }
+
+  static void namesOnTheWay() {
+    String[] laws = {"walk far+50*(minute=1 and %)", "walk far+50*(minute>1 and %)", "stay 2+30*(minute=4 and %)",
+      "stay 2+30*(minute=19 and %)", "may minute<>4 or %", "may minute<>19 or %", "cat 1000*(minute=7 and worth=11 and %)"};
+    int[][] values = {{3, 0, 1, 1, 9, 5, 0}, {13, 1, 6, 0, 8, 11, 0}, {0, 0, 4, 0, 9, 5, 0}, {0, 1, 19, 0, 8, 11, 0}, {0, 0, 4, 0, 9, 5, 0},
+      {0, 1, 19, 0, 8, 11, 0}, {0, 0, 7, 0, 0, 11, 0}};
+    // done(0, 1), done(1, 1), after(0, 0), was(1, 1) if it is so, and if not
+    int[][] so = {{54, 69, 71, 69}, {4, 69, 71, 69}, {4, 49, 51, 49}, {4, 19, 51, 19}, {4, 19, 21, 19}, {4, 19, 21, 19}, {4, 19, 21, 7}};
+    int[][] not = {{4, 19, 21, 19}, {4, 19, 21, 19}, {4, 19, 21, 19}, {4, 19, 21, 19}, {-1, 17, 19, 17}, {4, -1, 19, -1}, {4, 19, 21, 19}};
+    for (int law = 0; law < laws.length; law++) {
+      for (int i = 0; i < NAMES.length; i++) {
+        for (int is = 0; is < 2; is++) {
+          FirstSill x = onTheWay(laws[law], is == 1, NAMES[i], values[law][i]);
+          int[] due = is == 1 ? so[law] : not[law];
+          String told = laws[law] + ", " + NAMES[i] + " " + is;
+          Check.due(told + ": a", x.done(0, 1), due[0]);
+          Check.due(told + ": b", x.done(1, 1), due[1]);
+          Check.due(told + ": leaves", x.after(0, 0), due[2]);
+          x.night();
+          Check.due(told + ": b in a night", x.was(1, 1), due[3]);
+          // so he goes by BEST and in TALES, too
+          if (due[0] != -1) x.track(0, 0, due[0]);
+          if (due[1] != -1) x.track(0, 1, due[1]);
+          Check.due(told + ": best, with b, a at least", x.best(1), 16);
+          boolean left = false;
+          for (int k = 0; k < x.tales(0); k++) left |= x.tale(0, k, 0) == 0 && x.tale(0, k, 1) == 1;
+          Check.due(told + ": the tale a, b", left, true);
+        }
+      }
+    }
   }
 
   // ---- "He comes WALK minutes behind the one on which he leaves; not at all (the row ends), if that is above 240."
@@ -540,6 +615,42 @@ public final class CourseEdgesTest {
     Check.due("done is as planned", x.done(0, 0), 0);
   }
 
+  /** All six HOUSES, as planned and in a night: two DONE by themselves, two by k, one SPOILT, one neither. */
+  static void sixHouses() {
+    FirstSill x = Check.street("house a 5 1 own;house b 6 2;house c 7 3;house d 8 4;house e 9 5;house f 10 6 own;dark k 5 9;"
+        + "law cat 1000*(worth=3 and minute=2);law may worth<>4;");
+    x.out(0, true);
+    x.out(5, true);
+    Check.send(x, 0, 1, 2, 3, 4, 5);
+    int[][] planned = {{-2, 0, 0, -1, 0, -2}, {1, 2, 5, -1, 9, 1}};
+    int[][] night = {{-2, 0, -3, -1, 0, -2}, {1, 2, 2, -1, 7, 1}};
+    Check.due("gain", x.gain(), 1 + 2 + 3 + 5 + 6);
+    Check.due("night", x.night(), 1 + 2 + 5 + 6);
+    for (int h = 0; h < 6; h++) {
+      for (int what = 0; what < 2; what++) {
+        Check.due("done(" + h + ", " + what + ")", x.done(h, what), planned[what][h]);
+        Check.due("was(" + h + ", " + what + ")", x.was(h, what), night[what][h]);
+      }
+    }
+    Check.due("DONE by nobody", x.which(1), 8);
+    Check.due("in vain", x.which(2), 8 + 32);
+    Check.due("DONE", x.count(3), 5);
+    // an IMAGE has the night of all six
+    x.keep();
+    x.out(0, false);
+    x.out(5, false);
+    for (int i = 0; i < 5; i++) x.drop(0);
+    x.night();
+    for (int h = 0; h < 6; h++) Check.due("nobody: was(" + h + ", 0)", x.was(h, 0), h == 2 ? -3 : -1);
+    x.back();
+    for (int h = 0; h < 6; h++) {
+      for (int what = 0; what < 2; what++) {
+        Check.due("back: done(" + h + ", " + what + ")", x.done(h, what), planned[what][h]);
+        Check.due("back: was(" + h + ", " + what + ")", x.was(h, what), night[what][h]);
+      }
+    }
+  }
+
   // ---- Promise 8
 
   static void walk() {
@@ -811,6 +922,8 @@ public final class CourseEdgesTest {
     comparisons();
     cutTowardsZero();
     errors();
+    deep();
+    namesOnTheWay();
     upToMinute240();
     theRowEnds();
     coal();
@@ -824,6 +937,7 @@ public final class CourseEdgesTest {
     whoDrawsANumber();
     whoComesIsAheadOfTheCats();
     whoComesToASpoiltHouse();
+    sixHouses();
     walk();
     stays();
     cat();

@@ -293,6 +293,24 @@ public final class KeptEdgesTest {
     }
   }
 
+  /** Each state differs from all others: of which one it is that is come back to. */
+  static void whichIsUndone() {
+    for (int changes = 1; changes <= 63; changes++) {
+      FirstSill x = Check.street("house a 0 1;house b 0 1;house c 0 1;house d 0 1;house e 0 1;house f 0 1;dark k 0 1;");
+      for (int i = 1; i <= changes; i++) {
+        int h = Integer.numberOfTrailingZeros(i);
+        x.glass(h, Check.look(x, h, 4) == 0);
+      }
+      for (int i = changes - 1; i >= Math.max(0, changes - 20); i--) {
+        x.undo();
+        int refused = 0;
+        for (int h = 0; h < 6; h++) refused |= Check.look(x, h, 4) << h;
+        Check.due("undone to " + i + " of " + changes, refused, i ^ i >> 1);
+      }
+      Check.due("no more of " + changes, x.undo(), -1);
+    }
+  }
+
   static void undoOfEachKind() {
     FirstSill x = Check.street("house a 0 5 by 2 own;house b 0 7;dark k 0 2;");
     Check.due("nothing", x.undo(), -1);
@@ -497,6 +515,7 @@ public final class KeptEdgesTest {
     tale();
     talesByTracks();
     twentyAtMost();
+    whichIsUndone();
     undoOfEachKind();
     aClimbOfTwenty();
     backAsItWas();

@@ -44,6 +44,20 @@ public final class TextEdgesTest {
     }
   }
 
+  /** Whatever number was told ahead: what is no TOKEN is none where an N must come, too. */
+  static void everyByteInPlaceOfANumber() {
+    for (int c = 0; c < 256; c++) {
+      boolean blank = c == 10 || c == 32;
+      boolean digit = c >= '0' && c <= '9';
+      String text = "seed 99999;house a " + (char) c + ";";
+      Check.fault(text, 1, blank || digit ? 20 : 19);
+      text = "seed 99999;law walk 1+" + (char) c + ";";
+      if (digit) Check.right(text, 2);
+      else Check.fault(text, 1, blank || c == '(' ? 23 : 22);
+    }
+    for (String name : each(NAMES)) Check.right("seed 99999;law walk " + name + ";", 2);
+  }
+
   static void blanksAnywhere() {
     Check.right("\n \n", 0);
     Check.right(" \n house\n\n a \n1  2\nby\n3 own ; ", 1);
@@ -508,6 +522,30 @@ public final class TextEdgesTest {
     Check.due("nor its place", x.fault(1), -1);
   }
 
+  /** What the TEXT doesn't tell is as without, whatever a TEXT ahead told: one that was read to its end, or to a FAULT. */
+  static void nothingIsLeftOfATextAhead() {
+    String rich = "house a 1 99 by 3 own;house b 2 98 by 4 own;house c 3 97 by 5 own;dark k 7 9;dark l 8 8;seed 777;"
+        + "law walk 3;law stay 4;law may worth>97;law cat 500;";
+    String[] plain = {"house a 10 9;house b 30 7;house c 50 5;dark k 20 5;dark l 60 2;",
+      "house b 30 7;dark l 20 5;law cat 300;", "dark l 1 1;", "house c 4 4;law may 1;", "seed 3;house a 10 9 own;dark k 20 5;law cat 9;"};
+    for (String text : plain) {
+      String due = Seen.of(Check.street(text));
+      FirstSill x = Check.street(rich);
+      // what is worked out for the TEXT ahead is no answer for this one
+      x.best(2);
+      x.tales(1);
+      x.exchange(0);
+      x.night();
+      Check.tell(x, text);
+      Check.same("behind a rich TEXT: " + text, Seen.of(x), due);
+      x = new FirstSill();
+      x.best(0);
+      Check.due("a rich TEXT with a FAULT", Check.tell(x, rich + "!"), -1);
+      Check.tell(x, text);
+      Check.same("behind a FAULT: " + text, Seen.of(x), due);
+    }
+  }
+
   /** "how many LINES; NONE with a FAULT, all else stays". */
   static void allElseStays() {
     String seen = Seen.allButText(used());
@@ -630,6 +668,7 @@ public final class TextEdgesTest {
     everyByteBetweenTokens();
     everyByteInAWord();
     everyByteInANumber();
+    everyByteInPlaceOfANumber();
     blanksAnywhere();
     signsThatBelongTogether();
     wordsOfOneToSixLetters();
@@ -652,6 +691,7 @@ public final class TextEdgesTest {
     firstBytes();
     notSoMany();
     allIsNew();
+    nothingIsLeftOfATextAhead();
     allElseStays();
     fault();
     named();
