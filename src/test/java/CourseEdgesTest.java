@@ -369,6 +369,50 @@ public final class CourseEdgesTest {
     Check.due("none on minute 9", x.where(0, 9), -2);
   }
 
+  /** "glass: how many he has had": those that are REFUSED are none, whatever he DID. */
+  static void glassesHad() {
+    String[] laws = {"law walk 1+glass*50;", "law stay 1+glass*50;", "law may glass=0 or minute>99;", "law walk 1+(9-left)*20;", "law stay 1+(9-left)*20;"};
+    // a on its minute, b on its one, leaving b; without and with a's GLASS REFUSED
+    int[][] taken = {{2, 55, 57}, {1, 2, 53}, {1, -1, 3}, {2, 25, 27}, {1, 2, 23}};
+    int[][] refused = {{2, 3, 5}, {1, 1, 2}, {1, 1, 3}, {2, 23, 25}, {1, 1, 22}};
+    for (int i = 0; i < laws.length; i++) {
+      FirstSill x = Check.street("house a 0 1;house b 0 1;dark k 0 9;" + laws[i]);
+      Check.send(x, 0, 0, 1);
+      for (int is = 0; is < 2; is++) {
+        int[] due = is == 0 ? taken[i] : refused[i];
+        Check.due(laws[i] + " REFUSED " + is + ": a", x.done(0, 1), due[0]);
+        Check.due(laws[i] + " REFUSED " + is + ": b", x.done(1, 1), due[1]);
+        Check.due(laws[i] + " REFUSED " + is + ": leaves", x.after(0, 0), due[2]);
+        x.glass(0, true);
+      }
+    }
+  }
+
+  /** Three on the way at once, each with glasses, COAL, minutes and places of his own. */
+  static void eachForHimself() {
+    FirstSill x = Check.street("house a 10 1;house b 11 1;house c 30 1;house d 31 1;house e 60 1;house f 62 1;dark k 9 9;dark l 29 7;dark m 60 5;"
+        + "law walk far+glass+(9-left);law stay glass*5+left;");
+    // k: a on 2, stays 9, b on 11 + 1 + 1 + 1 = 14, stays 5 + 8
+    Check.send(x, 0, 0, 1);
+    // l: c on 1 + 1 + 2 = 4, stays 7, d on 11 + 1 + 1 + 3 = 16, stays 5 + 6
+    Check.send(x, 1, 2, 3);
+    // m: e on 1 + 4 = 5, stays 5, f on 10 + 2 + 1 + 5 = 18, stays 5 + 4
+    Check.send(x, 2, 4, 5);
+    int[] on = {2, 14, 4, 16, 5, 18};
+    int[][] after = {{27, 2, 7, 2, 11}, {27, 2, 5, 2, 31}, {27, 2, 3, 2, 62}};
+    for (int h = 0; h < 6; h++) Check.due("done(" + h + ", 1)", x.done(h, 1), on[h]);
+    for (int h = 0; h < 6; h++) Check.due("done(" + h + ", 0)", x.done(h, 0), h / 2);
+    for (int d = 0; d < 3; d++) {
+      for (int what = 0; what < 5; what++) Check.due("after(" + d + ", " + what + ")", x.after(d, what), after[d][what]);
+      Check.due("where at the second", x.where(d, on[2 * d + 1]), 1);
+      Check.due("where ahead of it", x.where(d, on[2 * d + 1] - 1), 0);
+      Check.due("where at the first", x.where(d, on[2 * d]), 0);
+      Check.due("where ahead of it", x.where(d, on[2 * d] - 1), -2);
+    }
+    x.night();
+    for (int h = 0; h < 6; h++) Check.due("was(" + h + ", 1)", x.was(h, 1), on[h]);
+  }
+
   /** "if the HOUSE isn't DONE": by another one, by himself, by itself. */
   static void isDone() {
     FirstSill x = Check.street("house a 0 5 own;dark k 0 9;dark l 0 9;law stay 7;");
@@ -910,6 +954,12 @@ public final class CourseEdgesTest {
     for (int what : new int[] {LOW, -1, 3, 4, HIGH}) Check.due("which(" + what + ")", x.which(what), -1);
     x.send(0, 0);
     Check.due("he comes again to the one that he DID", x.which(2), 1 + 8 + 16);
+    // each HOUSE for itself: the first one and the last one are DONE by nobody
+    x = Check.street("house a 9 1;house b 9 1 by 9;house c 9 1 by 10;house d 9 1;dark k 0 2;law stay 0;");
+    Check.send(x, 0, 1, 2, 3);
+    Check.due("b behind BY", x.which(0), 2);
+    Check.due("a and d by nobody", x.which(1), 9);
+    Check.due("d in vain", x.which(2), 8);
     for (int what = 0; what < 3; what++) Check.due("no HOUSES: which(" + what + ")", Check.street("dark k 0 1;").which(what), 0);
   }
 
@@ -928,6 +978,8 @@ public final class CourseEdgesTest {
     theRowEnds();
     coal();
     leaves();
+    glassesHad();
+    eachForHimself();
     isDone();
     whoIsFirst();
     out();

@@ -522,6 +522,41 @@ public final class TextEdgesTest {
     Check.due("nor its place", x.fault(1), -1);
   }
 
+  /** The same of as many as there can be: six HOUSES, three DARK ones with rows of nine, 24 TRACKS, 20 to undo. */
+  static void allOfTheMostIsNew() {
+    String text = "house a 1 1 own;house b 2 2 own;house c 3 3 own;house d 4 4 own;house e 5 5 own;house f 6 6 own;"
+        + "dark k 1 9;dark l 2 9;dark m 3 9;law cat 100;";
+    FirstSill x = Check.street(text);
+    for (int d = 0; d < 3; d++) Check.send(x, d, 0, 1, 2, 3, 4, 5, 0, 1, 2);
+    for (int h = 0; h < 6; h++) {
+      x.glass(h, true);
+      x.out(h, true);
+    }
+    for (int i = 0; i < 24; i++) x.track(i % 3, i % 6, 1 + i);
+    x.known(24);
+    x.night();
+    x.keep();
+    x.best(3);
+    Check.due("told once more", Check.tell(x, text), 10);
+    for (int d = 0; d < 3; d++) {
+      Check.due("an empty row", x.dark(d, 2), 0);
+      Check.due("no HOUSE in it", x.dark(d, 3), -1);
+      Check.due("all COAL", x.after(d, 2), 9);
+      Check.due("all TALES", x.tales(d), 1957);
+    }
+    for (int h = 0; h < 6; h++) {
+      Check.due("no GLASS REFUSED", Check.look(x, h, 4), 0);
+      Check.due("nobody OUT", Check.look(x, h, 5), 0);
+      Check.due("DONE by nobody", x.done(h, 0), -1);
+      Check.due("no NIGHT", x.was(h, 0), -4);
+    }
+    int[] due = {6, 3, 1, 0, 0, 0, 0, 0};
+    for (int what = 0; what < 8; what++) Check.due("count(" + what + ")", x.count(what), due[what]);
+    Check.due("best", x.best(3), 21);
+    Check.due("no IMAGE", x.back(), -1);
+    Check.due("nothing to undo", x.undo(), -1);
+  }
+
   /** What the TEXT doesn't tell is as without, whatever a TEXT ahead told: one that was read to its end, or to a FAULT. */
   static void nothingIsLeftOfATextAhead() {
     String rich = "house a 1 99 by 3 own;house b 2 98 by 4 own;house c 3 97 by 5 own;dark k 7 9;dark l 8 8;seed 777;"
@@ -691,6 +726,7 @@ public final class TextEdgesTest {
     firstBytes();
     notSoMany();
     allIsNew();
+    allOfTheMostIsNew();
     nothingIsLeftOfATextAhead();
     allElseStays();
     fault();
