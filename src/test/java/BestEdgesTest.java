@@ -162,6 +162,26 @@ public final class BestEdgesTest {
     }
   }
 
+  /** GLASSES as they are: who DID one that is REFUSED has had no glass. */
+  static void rowsWithAGlassRefused() {
+    FirstSill x = Check.street("house a 0 5;house b 0 7;house c 0 9;dark k 0 9;law walk 1+glass*240;law stay 1;");
+    Check.due("each behind a glass is too late", x.best(1), 9);
+    Check.due("not two", x.all(3), 0);
+    x.glass(0, true);
+    Check.due("half of 5, then one more", x.best(1), 11);
+    chosenIs(x, 1, 0, 0, 2);
+    Check.due("a, b", x.all(3), 1);
+    Check.due("not b, c", x.all(6), 0);
+    Check.due("not all", x.all(7), 0);
+    x.track(0, 2, 3);
+    Check.due("a, c; a, c, b", x.tales(0), 2);
+    x.glass(1, true);
+    Check.due("half of 5, half of 7, then c", x.best(1), 14);
+    chosenIs(x, 1, 0, 0, 1, 2);
+    Check.due("all", x.all(7), 1);
+    Check.due("b, c; a, c too", x.tales(0), 4);
+  }
+
   // ---- Promise 22: "The k-th HOUSE ..; -2: there are no so many; NONE: no such ones."
 
   static void chosen() {
@@ -307,6 +327,20 @@ public final class BestEdgesTest {
     exchangeIs("like HOUSES", x);
     x.send(0, 1);
     exchangeIs("one more", x, 6, 0, 0, 0, 2);
+    // GLASSES as they are: half of 10 now, 6 then; whole 4 now, half of 11 then
+    x = Check.street("house a 0 10;house b 0 6;dark k 0 1;");
+    Check.send(x, 0, 0, 1);
+    exchangeIs("10 is more than 6", x);
+    x.glass(0, true);
+    exchangeIs("half of 10 is less than 6", x, 6, 0, 0, 0, 1);
+    x = Check.street("house a 0 4;house b 0 11;house c 0 1 own;dark k 0 1;");
+    Check.send(x, 0, 0, 1);
+    x.out(2, true);
+    exchangeIs("11 and 1", x, 12, 0, 0, 0, 1);
+    x.glass(1, true);
+    exchangeIs("half of 11 and 1", x, 6, 0, 0, 0, 1);
+    x.glass(2, true);
+    exchangeIs("1 by itself is whole", x, 6, 0, 0, 0, 1);
     // what is behind the end of a row is no PLACE, whatever was there
     x = Check.street("house a 0 9;house b 0 5;house c 0 7;dark k 0 1;dark l 0 1;");
     x.send(0, 1);
@@ -613,6 +647,7 @@ public final class BestEdgesTest {
     theFirstOfSeveral();
     theRowEnds();
     lawsOfRows();
+    rowsWithAGlassRefused();
     chosen();
     many();
     price();

@@ -206,6 +206,27 @@ public final class KeptEdgesTest {
     Check.due("no sixth", x.tale(1, 5, 0), -3);
   }
 
+  /** tale() goes by the same KNOWN ones as tales(). */
+  static void taleByWhatIsKnown() {
+    FirstSill x = Check.street(TWO);
+    x.track(0, 0, 11);
+    x.strike(0);
+    x.track(0, 1, 21);
+    x.strike(2);
+    // known by 1: a, a b; by 2: all five; by 3: b, b a; by 4: all five
+    int[][] first = {{-2, 0, 0, 1, 1}, {0, 0}, {-2, 0, 0, 1, 1}, {1, 1}, {-2, 0, 0, 1, 1}};
+    for (int n = 0; n <= 4; n++) {
+      x.known(n);
+      Check.due("tales by " + n, x.tales(0), first[n].length);
+      for (int k = 0; k < first[n].length; k++) Check.due("tale " + k + " by " + n, x.tale(0, k, 0), first[n][k]);
+      Check.due("no more by " + n, x.tale(0, first[n].length, 0), -3);
+    }
+    x.known(-1);
+    Check.due("by all: the empty one", x.tale(0, 0, 0), -2);
+    Check.due("by all: five", x.tale(0, 4, 0), 1);
+    Check.due("by all: no sixth", x.tale(0, 5, 0), -3);
+  }
+
   /** "as if he went alone without CATS (OUT, GLASSES as they are), by which all KNOWN ones of his are so" */
   static void talesByTracks() {
     for (int m = 10; m <= 12; m++) {
@@ -513,6 +534,7 @@ public final class KeptEdgesTest {
     strikesOfStrikes();
     talesOfAll();
     tale();
+    taleByWhatIsKnown();
     talesByTracks();
     twentyAtMost();
     whichIsUndone();
