@@ -99,6 +99,19 @@ public final class BestEdgesTest {
     chosenIs(x, 3, 0);
     chosenIs(x, 3, 1);
     chosenIs(x, 3, 2, 0, 1);
+    // k can do one alone, which l could do as well, for more than his own
+    x = Check.street("house a 0 5 by 60;house b 99 6;dark k 99 1;dark l 50 1;");
+    Check.due("both", x.best(2), 11);
+    chosenIs(x, 2, 0, 1);
+    chosenIs(x, 2, 1, 0);
+    // each can do his own alone
+    x = Check.street("house a 0 5 by 1;house b 50 6 by 1;house c 99 7 by 1;dark k 99 9;dark l 0 9;dark m 50 9;");
+    Check.due("all three", x.best(3), 18);
+    chosenIs(x, 3, 0, 2);
+    chosenIs(x, 3, 1, 0);
+    chosenIs(x, 3, 2, 1);
+    Check.due("without the last one", x.best(2), 12);
+    chosenIs(x, 2, 1, 0);
     // by one more, a later one is BEST
     x = Check.street("house a 0 5;house b 0 6;dark k 0 1;");
     chosenIs(x, 1, 0, 1);
@@ -327,6 +340,20 @@ public final class BestEdgesTest {
     exchangeIs("like HOUSES", x);
     x.send(0, 1);
     exchangeIs("one more", x, 6, 0, 0, 0, 2);
+    // of each DARK one, of each two
+    for (int d = 0; d < 3; d++) {
+      for (int e = d; e < 3; e++) {
+        x = Check.street("house a 0 0;house b 0 7;dark k 0 " + (d == 0 ? 1 : 0) + ";dark l 0 " + (d == 1 ? 1 : 0) + ";dark m 0 " + (d == 2 ? 1 : 0) + ";");
+        x.send(d, 0);
+        x.send(e, 1);
+        exchangeIs("the first of " + d + " and one of " + e, x, 7, d, 0, e, d == e ? 1 : 0);
+        x = Check.street("house a 0 0;house b 0 7;dark k 0 " + (e == 0 ? 1 : 0) + ";dark l 0 " + (e == 1 ? 1 : 0) + ";dark m 0 " + (e == 2 ? 1 : 0) + ";");
+        if (d == e) continue;
+        x.send(d, 1);
+        x.send(e, 0);
+        exchangeIs("the other way, " + d + " and " + e, x, 7, d, 0, e, 0);
+      }
+    }
     // GLASSES as they are: half of 10 now, 6 then; whole 4 now, half of 11 then
     x = Check.street("house a 0 10;house b 0 6;dark k 0 1;");
     Check.send(x, 0, 0, 1);

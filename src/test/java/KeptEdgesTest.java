@@ -227,6 +227,26 @@ public final class KeptEdgesTest {
     Check.due("by all: no sixth", x.tale(0, 5, 0), -3);
   }
 
+  /** TRACKS of each DARK one, STRIKES between them at each number. */
+  static void tracksOfEach() {
+    for (int d = 0; d < 3; d++) {
+      for (int strikes = 0; strikes < 5; strikes++) {
+        FirstSill x = Check.street("house a 10 5;house b 10 6;dark k 9 2;dark l 8 2;dark m 7 2;");
+        x.track(d, 0, 240);
+        x.strike(0);
+        for (int i = 0; i < strikes; i++) x.strike(0);
+        x.track(d, 1, 2 + d);
+        for (int e = 0; e < 3; e++) {
+          Check.due("tales of " + e + ", tracks of " + d, x.tales(e), e == d ? 2 : 5);
+          Check.due("the first tale of " + e + ", tracks of " + d, x.tale(e, 0, 0), e == d ? 1 : -2);
+        }
+        x.track((d + 1) % 3, 0, 1);
+        Check.due("none of another one", x.tales((d + 1) % 3), 0);
+        Check.due("two of his", x.tales(d), 2);
+      }
+    }
+  }
+
   /** "as if he went alone without CATS (OUT, GLASSES as they are), by which all KNOWN ones of his are so" */
   static void talesByTracks() {
     for (int m = 10; m <= 12; m++) {
@@ -535,6 +555,7 @@ public final class KeptEdgesTest {
     talesOfAll();
     tale();
     taleByWhatIsKnown();
+    tracksOfEach();
     talesByTracks();
     twentyAtMost();
     whichIsUndone();
